@@ -693,6 +693,16 @@ public final class GapSongs {
         return notes & ~(15 << shift) | (note & 15) << shift;
     }
 
+    private static int gapsAmong(int notes, int length) {
+        int bits = 0;
+        for (int place = 0; place < length; place++) {
+            if (noteAt(notes, place) == NONE) {
+                bits |= 1 << place;
+            }
+        }
+        return bits;
+    }
+
     /** What a text told: it stays until another text is told. */
     private static final class Told {
         private int songs = 0;
@@ -1078,13 +1088,7 @@ public final class GapSongs {
         }
 
         private int gapsIn(int song, int notes) {
-            int many = 0;
-            for (int place = 0; place < told.lengths[song]; place++) {
-                if (noteAt(notes, place) == NONE) {
-                    many++;
-                }
-            }
-            return many;
+            return Integer.bitCount(gapsAmong(notes, told.lengths[song]));
         }
 
         private int othersWith(State state, int person, int song) {
@@ -1190,16 +1194,7 @@ public final class GapSongs {
 
         /** Bits by places; 0 of a SONG that one hasn't. */
         private int gapBits(int song, int notes) {
-            int bits = 0;
-            if (notes == State.NO_NOTES) {
-                return bits;
-            }
-            for (int place = 0; place < told.lengths[song]; place++) {
-                if (noteAt(notes, place) == NONE) {
-                    bits |= 1 << place;
-                }
-            }
-            return bits;
+            return notes == State.NO_NOTES ? 0 : gapsAmong(notes, told.lengths[song]);
         }
 
         private int gapCount(int song, int notes) {

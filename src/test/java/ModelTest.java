@@ -8,14 +8,14 @@ import java.util.Random;
 /** Asks GapSongs and the Model the same by chance (always the same chance), and tells where they differ. */
 public final class ModelTest {
     /**
-     * A call and what its arguments are: p person, s song, l place, w what, d days up to 100, D days up to 20,
-     * n note, k days of winters, t tenths, o a person or nobody, i any int, m days of an act.
+     * A call and what its arguments are: p person, s song, l place, d days up to 100, D days up to 20, n note,
+     * k days of winters, t tenths, o a person or nobody, i any int, m days of an act, a digit or A so many whats.
      */
     private static final String[] CALLS = {
-        "fault", "count w", "song sw", "person pw", "first sl", "has psw", "days m", "learn pso", "seek pso",
-        "giveUp ps", "hum psln", "undo", "then psdw", "note psld", "sung sdw", "lost s", "learnt ps", "most d",
-        "both ppsw", "toLearn psw", "lessons sw", "lesson ps", "hear pslDn", "forget", "otherwise w", "ask w",
-        "winters pskt", "game ppsw", "years idw", "of psw", "kept sdw", "later dw", "agreed sl", "image", "restore"};
+        "fault", "count A", "song s5", "person p5", "first sl", "has ps7", "days m", "learn pso", "seek pso",
+        "giveUp ps", "hum psln", "undo", "then psd3", "note psld", "sung sd2", "lost s", "learnt ps", "most d",
+        "both pps2", "toLearn ps2", "lessons s2", "lesson ps", "hear pslDn", "forget", "otherwise 3", "ask 2",
+        "winters pskt", "game pps2", "years id3", "of ps3", "kept sd2", "later d3", "agreed sl", "image", "restore"};
     private static final int[] ODD = {-1, -2, 7, 8, 12, 101, 1000, Integer.MAX_VALUE, Integer.MIN_VALUE};
 
     private final Random random;
@@ -29,7 +29,7 @@ public final class ModelTest {
         random = new Random(seed);
     }
 
-    private int argument(char kind, int song) {
+    private int argument(char kind) {
         if (random.nextInt(40) == 0) {
             return ODD[random.nextInt(ODD.length)];
         }
@@ -38,7 +38,11 @@ public final class ModelTest {
             case 'o': return random.nextInt(6) == 0 ? -1 : random.nextInt(Math.max(1, people));
             case 's': return random.nextInt(Math.max(1, songs));
             case 'l': return random.nextInt(random.nextBoolean() ? 3 : 8);
-            case 'w': return random.nextInt(random.nextInt(5) == 0 ? 13 : 3);
+            case 'A': return random.nextInt(12);
+            case '2': return random.nextInt(2);
+            case '3': return random.nextInt(3);
+            case '5': return random.nextInt(5);
+            case '7': return random.nextInt(7);
             case 'd': return random.nextInt(random.nextInt(5) == 0 ? 102 : 12);
             case 'D': return random.nextInt(random.nextInt(9) == 0 ? 22 : 4);
             case 'm': return random.nextInt(random.nextInt(3) == 0 ? 22 : 4);
@@ -74,11 +78,10 @@ public final class ModelTest {
         return got;
     }
 
-    private int tellText(String text) throws ReflectiveOperationException {
+    private void tellText(String text) throws ReflectiveOperationException {
         told.add("text: " + text);
         byte[] bytes = Arrays.copyOf(text.getBytes(java.nio.charset.StandardCharsets.ISO_8859_1), 720);
-        int calls = 1;
-        for (int at = 0; at < text.length(); at += 20, calls++) {
+        for (int at = 0; at < text.length(); at += 20) {
             java.nio.ByteBuffer b = java.nio.ByteBuffer.wrap(bytes, at, 20);
             askBoth("feed", b.getInt(), b.getInt(), b.getInt(), b.getInt(), b.getInt());
         }
@@ -87,7 +90,6 @@ public final class ModelTest {
         songs = Integer.parseInt(askBoth("count", 0));
         people = Integer.parseInt(askBoth("count", 1));
         askBoth("count", 8);
-        return calls + 4;
     }
 
     /** What is so then, so that what is HEARD isn't always refuted at once. */
@@ -102,14 +104,50 @@ public final class ModelTest {
         askBoth("hear", p, s, l, d, Integer.parseInt(askBoth("note", p, s, l, d)));
     }
 
+    /** One LEARNS what one can, and gaps are hummed, so that no two have it alike. */
+    private void singOn() throws ReflectiveOperationException {
+        for (int s = 0; s < songs; s++) {
+            for (int p = 0; p < people; p++) {
+                int gaps = Integer.parseInt(askBoth("has", p, s, 1));
+                if (gaps != 0 && random.nextBoolean()) {
+                    askBoth("hum", p, s, Integer.numberOfTrailingZeros(gaps), random.nextInt(10));
+                }
+                int other = Integer.parseInt(askBoth("toLearn", p, s, 0));
+                if (other != -1) {
+                    askBoth("learn", p, s, other);
+                }
+            }
+        }
+    }
+
+    /** What is only of worth where many HAVE a SONG and there are TEACHERS. */
+    private void lookAtSongs() throws ReflectiveOperationException {
+        for (int s = 0; s < songs; s++) {
+            askBoth("song", s, 3);
+            askBoth("song", s, 4);
+            askBoth("agreed", s, 0);
+            askBoth("lessons", s, 1);
+            for (int p = 0; p < people; p++) {
+                askBoth("has", p, s, 3 + random.nextInt(4));
+                askBoth("of", p, s, random.nextInt(3));
+                askBoth("both", p, random.nextInt(people), s, random.nextInt(2));
+                askBoth("game", p, random.nextInt(people), s, random.nextInt(2));
+                askBoth("lesson", p, s);
+            }
+        }
+    }
+
     private void anyCall() throws ReflectiveOperationException {
         String[] call = CALLS[random.nextInt(CALLS.length)].split(" ");
         String kinds = call.length > 1 ? call[1] : "";
         int[] arguments = new int[kinds.length()];
         for (int i = 0; i < arguments.length; i++) {
-            arguments[i] = argument(kinds.charAt(i), 0);
+            arguments[i] = argument(kinds.charAt(i));
         }
-        askBoth(call[0], arguments);
+        boolean spoils = call[0].equals("restore") || call[0].equals("giveUp") || call[0].equals("forget");
+        if (!spoils || random.nextInt(3) == 0) {
+            askBoth(call[0], arguments);
+        }
     }
 
     private void lookAtAll() throws ReflectiveOperationException {
@@ -128,36 +166,69 @@ public final class ModelTest {
         real = new GapSongs();
         model = new Model();
         Texts texts = new Texts(random);
-        int calls = 0;
-        while (calls < 400) {
-            int kind = random.nextInt(60);
-            if (calls == 0 || kind == 0) {
+        tellText(texts.any());
+        while (told.size() < 400) {
+            int kind = random.nextInt(80);
+            if (kind == 0) {
                 String text = texts.any();
-                calls += tellText(random.nextInt(6) == 0 ? texts.changed(text) : text);
+                tellText(random.nextInt(6) == 0 ? texts.changed(text) : text);
             } else if (kind == 1) {
-                calls += tellText(random.nextBoolean() ? texts.wild() : texts.changed(texts.any()));
+                tellText(random.nextBoolean() ? texts.wild() : texts.changed(texts.any()));
             } else if (kind == 2) {
                 lookAtAll();
-                calls += 60;
-            } else if (kind < 6) {
+            } else if (kind < 5) {
+                singOn();
+            } else if (kind == 5) {
+                lookAtSongs();
+            } else if (kind < 9) {
                 hearTruth();
-                calls += 3;
             } else {
                 anyCall();
-                calls++;
             }
         }
     }
 
-    /** Many texts on one object each, for their FAULTS alone. */
+    /** More ACTS than are kept, with an image in between, and all undone. */
+    private void runActs() throws ReflectiveOperationException {
+        real = new GapSongs();
+        model = new Model();
+        String[] names = {"days", "seek", "giveUp", "hum", "learn", "undo", "image", "restore", "hear"};
+        int[] weights = {3, 16, 2, 4, 3, 2, 1, 1, 1};
+        tellText(new Texts(random).any());
+        while (told.size() < 330) {
+            int pick = random.nextInt(33);
+            int which = 0;
+            while (pick >= weights[which]) {
+                pick -= weights[which];
+                which++;
+            }
+            for (String call : CALLS) {
+                if (call.split(" ")[0].equals(names[which])) {
+                    String kinds = call.contains(" ") ? call.split(" ")[1] : "";
+                    int[] arguments = new int[kinds.length()];
+                    Arrays.setAll(arguments, i -> argument(kinds.charAt(i)));
+                    askBoth(names[which], arguments);
+                }
+            }
+            if (random.nextInt(12) == 0) {
+                singOn();
+            }
+        }
+        while (!askBoth("undo").equals("-1")) {
+            askBoth("count", 2 + random.nextInt(4));
+        }
+        lookAtAll();
+    }
+
+    /** Many texts on one object, for their FAULTS alone. */
     private void runTexts() throws ReflectiveOperationException {
         real = new GapSongs();
         model = new Model();
         Texts texts = new Texts(random);
-        for (int calls = 0; calls < 440;) {
+        while (told.size() < 440) {
             int kind = random.nextInt(4);
             String text = kind == 0 ? texts.wild() : kind == 1 ? texts.any() : texts.changed(texts.any());
-            calls += tellText(text);
+            tellText(text);
         }
     }
 
@@ -167,8 +238,10 @@ public final class ModelTest {
         for (long seed = from; seed < from + runs; seed++) {
             ModelTest test = new ModelTest(seed);
             try {
-                if (seed % 3 == 0) {
+                if (seed % 5 == 0) {
                     test.runTexts();
+                } else if (seed % 5 == 1) {
+                    test.runActs();
                 } else {
                     test.run();
                 }
