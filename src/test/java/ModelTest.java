@@ -1,12 +1,10 @@
-import java.lang.reflect.InvocationTargetException;
-import java.lang.reflect.Method;
 import java.util.ArrayList;
 import java.util.Arrays;
 import java.util.List;
 import java.util.Random;
 
 /** Asks GapSongs and the Model the same by chance (always the same chance), and tells where they differ. */
-public final class ModelTest {
+public final class ModelTest extends Checks {
     /**
      * A call and what its arguments are: p person, s song, l place, d days up to 100, D days up to 20, n note,
      * k days of winters, t tenths, o a person or nobody, i any int, m days of an act, a digit or A so many whats.
@@ -53,22 +51,7 @@ public final class ModelTest {
         }
     }
 
-    private static String ask(Object object, String name, int[] arguments) throws ReflectiveOperationException {
-        Class<?>[] types = new Class<?>[arguments.length];
-        Object[] boxed = new Object[arguments.length];
-        for (int i = 0; i < types.length; i++) {
-            types[i] = int.class;
-            boxed[i] = arguments[i];
-        }
-        Method method = object.getClass().getDeclaredMethod(name, types);
-        try {
-            return String.valueOf(method.invoke(object, boxed));
-        } catch (InvocationTargetException e) {
-            return "throws." + e.getCause().getClass().getSimpleName();
-        }
-    }
-
-    private String askBoth(String name, int... arguments) throws ReflectiveOperationException {
+    private String askBoth(String name, int... arguments) {
         String got = ask(real, name, arguments);
         String due = ask(model, name, arguments);
         told.add(name + Arrays.toString(arguments) + " = " + got);
@@ -78,12 +61,10 @@ public final class ModelTest {
         return got;
     }
 
-    private void tellText(String text) throws ReflectiveOperationException {
+    private void tellText(String text) {
         told.add("text: " + text);
-        byte[] bytes = Arrays.copyOf(text.getBytes(java.nio.charset.StandardCharsets.ISO_8859_1), 720);
-        for (int at = 0; at < text.length(); at += 20) {
-            java.nio.ByteBuffer b = java.nio.ByteBuffer.wrap(bytes, at, 20);
-            askBoth("feed", b.getInt(), b.getInt(), b.getInt(), b.getInt(), b.getInt());
+        for (int[] five : feeds(text)) {
+            askBoth("feed", five);
         }
         askBoth("marsh", random.nextInt(20) == 0 ? random.nextInt(800) - 20 : text.length());
         askBoth("fault");
@@ -93,7 +74,7 @@ public final class ModelTest {
     }
 
     /** What is so then, so that what is HEARD isn't always refuted at once. */
-    private void hearTruth() throws ReflectiveOperationException {
+    private void hearTruth() {
         if (people == 0 || songs == 0) {
             return;
         }
@@ -105,7 +86,7 @@ public final class ModelTest {
     }
 
     /** One LEARNS what one can, and gaps are hummed, so that no two have it alike. */
-    private void singOn() throws ReflectiveOperationException {
+    private void singOn() {
         for (int s = 0; s < songs; s++) {
             for (int p = 0; p < people; p++) {
                 int gaps = Integer.parseInt(askBoth("has", p, s, 1));
@@ -121,7 +102,7 @@ public final class ModelTest {
     }
 
     /** What is only of worth where many HAVE a SONG and there are TEACHERS. */
-    private void lookAtSongs() throws ReflectiveOperationException {
+    private void lookAtSongs() {
         for (int s = 0; s < songs; s++) {
             askBoth("song", s, 3);
             askBoth("song", s, 4);
@@ -137,7 +118,7 @@ public final class ModelTest {
         }
     }
 
-    private void anyCall() throws ReflectiveOperationException {
+    private void anyCall() {
         String[] call = CALLS[random.nextInt(CALLS.length)].split(" ");
         String kinds = call.length > 1 ? call[1] : "";
         int[] arguments = new int[kinds.length()];
@@ -150,7 +131,7 @@ public final class ModelTest {
         }
     }
 
-    private void lookAtAll() throws ReflectiveOperationException {
+    private void lookAtAll() {
         for (int what = 2; what < 12; what++) {
             askBoth("count", what);
         }
@@ -162,7 +143,7 @@ public final class ModelTest {
         }
     }
 
-    private void run() throws ReflectiveOperationException {
+    private void run() {
         real = new GapSongs();
         model = new Model();
         Texts texts = new Texts(random);
@@ -189,7 +170,7 @@ public final class ModelTest {
     }
 
     /** More ACTS than are kept, with an image in between, and all undone. */
-    private void runActs() throws ReflectiveOperationException {
+    private void runActs() {
         real = new GapSongs();
         model = new Model();
         String[] names = {"days", "seek", "giveUp", "hum", "learn", "undo", "image", "restore", "hear"};
@@ -221,7 +202,7 @@ public final class ModelTest {
     }
 
     /** Many texts on one object, for their FAULTS alone. */
-    private void runTexts() throws ReflectiveOperationException {
+    private void runTexts() {
         real = new GapSongs();
         model = new Model();
         Texts texts = new Texts(random);
@@ -232,7 +213,7 @@ public final class ModelTest {
         }
     }
 
-    public static void main(String[] args) throws ReflectiveOperationException {
+    public static void main(String[] args) {
         int runs = args.length > 0 ? Integer.parseInt(args[0]) : 400;
         long from = args.length > 1 ? Long.parseLong(args[1]) : 1;
         for (long seed = from; seed < from + runs; seed++) {

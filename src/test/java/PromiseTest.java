@@ -2,89 +2,14 @@ import java.lang.reflect.Constructor;
 import java.lang.reflect.Field;
 import java.lang.reflect.Method;
 import java.lang.reflect.Modifier;
-import java.nio.ByteBuffer;
-import java.nio.charset.StandardCharsets;
-import java.util.Arrays;
-import java.util.NoSuchElementException;
 import java.util.TreeSet;
 
 /** The promises one by one, with answers worked out by hand from the document. */
-public final class PromiseTest {
-    private static final int NONE = -1;
-    private static final int MANY = Integer.MAX_VALUE;
-    private static final int FEW = Integer.MIN_VALUE;
-
-    /** 0 has song 0 whole, 1 with a gap at place 1; 0 has song 1 with a gap at place 0; 2 seeks song 0 of 1. */
-    private static final String THREE = "song 1 2 3 4;song 5 5;person 1 3;person 0 2;person 2 9;"
-        + "has 0 0 0;has 1 0 2;has 0 1 1;seeks 2 0 1;";
-
-    private static int wrong = 0;
-    private static String promise = "";
-
-    private interface Call {
-        int answer();
-    }
-
-    private static void due(String call, int got, int want) {
-        if (got != want) {
-            wrong++;
-            System.out.println(promise + ": " + call + " answered " + got + ", due is " + want);
-        }
-    }
-
-    private static void due(String call, boolean got, boolean want) {
-        due(call, got ? 1 : 0, want ? 1 : 0);
-    }
-
-    private static void missing(String call, Call made) {
-        String got;
-        try {
-            got = String.valueOf(made.answer());
-        } catch (NoSuchElementException e) {
-            return;
-        } catch (RuntimeException e) {
-            got = e.toString();
-        }
-        wrong++;
-        System.out.println(promise + ": " + call + " answered " + got + ", NoSuchElementException is due");
-    }
-
-    private static void illegal(String call, Call made) {
-        String got;
-        try {
-            got = String.valueOf(made.answer());
-        } catch (IllegalArgumentException e) {
-            return;
-        } catch (RuntimeException e) {
-            got = e.toString();
-        }
-        wrong++;
-        System.out.println(promise + ": " + call + " answered " + got + ", IllegalArgumentException is due");
-    }
-
-    private static void feedText(GapSongs x, String text) {
-        byte[] bytes = Arrays.copyOf(text.getBytes(StandardCharsets.ISO_8859_1), 720);
-        for (int at = 0; at < text.length(); at += 20) {
-            ByteBuffer b = ByteBuffer.wrap(bytes, at, 20);
-            x.feed(b.getInt(), b.getInt(), b.getInt(), b.getInt(), b.getInt());
-        }
-    }
-
-    private static int tell(GapSongs x, String text) {
-        feedText(x, text);
-        return x.marsh(text.length());
-    }
-
-    private static GapSongs of(String text) {
-        GapSongs x = new GapSongs();
-        due("marsh of " + text, tell(x, text), 0);
-        return x;
-    }
-
+public final class PromiseTest extends Checks {
     // ---- the face ----
 
     private static void face() {
-        promise = "the face";
+        about("the face");
         TreeSet<String> names = new TreeSet<>();
         for (Method m : GapSongs.class.getDeclaredMethods()) {
             if (!Modifier.isPrivate(m.getModifiers())) {
@@ -114,7 +39,7 @@ public final class PromiseTest {
     // ---- 1 to 4: the tape and the text ----
 
     private static void newObject() {
-        promise = "1 a new object";
+        about("1 a new object");
         GapSongs x = new GapSongs();
         for (int what = 0; what < 12; what++) {
             due("count(" + what + ")", x.count(what), 0);
@@ -129,7 +54,7 @@ public final class PromiseTest {
     }
 
     private static void feed() {
-        promise = "2 feed";
+        about("2 feed");
         GapSongs x = new GapSongs();
         for (int i = 1; i <= 35; i++) {
             due("feed", x.feed(0x20202020, 0x20202020, 0x20202020, 0x20202020, 0x20202020), 20 * i);
@@ -148,16 +73,8 @@ public final class PromiseTest {
         due("a byte of 255", x.marsh(1), 1);
     }
 
-    private static void faulty(String text, int kind, int place) {
-        GapSongs x = new GapSongs();
-        due("marsh of " + text, tell(x, text), kind);
-        due("fault() of " + text, x.fault(), place);
-        due("STATUS 0 of " + text, x.count(9), kind == 0 ? 0 : 1);
-        due("SONGS of a FAULT", kind != 0 && x.count(0) != 0, false);
-    }
-
     private static void faults() {
-        promise = "3, 4 marsh and fault: FAULTS";
+        about("3, 4 marsh and fault: FAULTS");
         faulty("", 0, NONE);
         faulty("  \n\n ", 0, NONE);
         faulty("song1 2\n3;person0 9;", 0, NONE);
@@ -190,7 +107,7 @@ public final class PromiseTest {
     }
 
     private static void faultsOfSingers() {
-        promise = "3, 4 marsh and fault: has, seeks";
+        about("3, 4 marsh and fault: has, seeks");
         String two = "song 1 2;person 1 1;person 1 1;"; // 31 bytes
         faulty("has 0 0 0;", 3, 4);
         faulty("person 1 1;has 0 0 0;", 3, 17);
@@ -215,7 +132,7 @@ public final class PromiseTest {
     }
 
     private static void faultsOfRules() {
-        promise = "3, 4 marsh and fault: rules";
+        about("3, 4 marsh and fault: rules");
         faulty("forgets 1;fills 1;", 0, NONE);
         faulty("forgets 1;forgets", 5, 10);
         faulty("fills 1;fills 1;", 5, 8);
@@ -263,7 +180,7 @@ public final class PromiseTest {
     }
 
     private static void marsh() {
-        promise = "3, 4 marsh and fault";
+        about("3, 4 marsh and fault");
         GapSongs x = of(THREE);
         x.days(1);
         x.hear(0, 0, 0, 0, 1);
@@ -300,7 +217,7 @@ public final class PromiseTest {
     }
 
     private static void marshAgain() {
-        promise = "3 marsh, again and again";
+        about("3 marsh, again and again");
         GapSongs x = new GapSongs();
         for (int i = 0; i < 20; i++) {
             String text = "song 1 2;person 0 0;has 0 0 0;forgets " + "1+".repeat(40) + "1=41 and place=" + i % 2 + ";";
@@ -319,7 +236,7 @@ public final class PromiseTest {
     // ---- 5 to 9: what is so now ----
 
     private static void counts() {
-        promise = "5 count";
+        about("5 count");
         GapSongs x = of(THREE);
         int[] want = {2, 3, 0, 0, 2, 4, 0, 0, 0, 0, 0, 0};
         for (int what = 0; what < want.length; what++) {
@@ -341,7 +258,7 @@ public final class PromiseTest {
     }
 
     private static void songs() {
-        promise = "6 song";
+        about("6 song");
         GapSongs x = of("song 1 1 1 1;song 2;person 0 0;person 0 0;person 0 0;person 0 0;"
             + "has 0 0 1;has 1 0 3;has 2 0 14;has 3 0 0;");
         x.hum(0, 0, 0, 5);  // 5 1 1 1
@@ -368,7 +285,7 @@ public final class PromiseTest {
     }
 
     private static void people() {
-        promise = "7 person";
+        about("7 person");
         GapSongs x = of(THREE);
         int[][] want = {{1, 3, 3, NONE, NONE}, {0, 2, 1, NONE, NONE}, {2, 9, 0, 0, 1}};
         for (int p = 0; p < 3; p++) {
@@ -383,7 +300,7 @@ public final class PromiseTest {
     }
 
     private static void firsts() {
-        promise = "8 first";
+        about("8 first");
         GapSongs x = of(THREE);
         for (int place = 0; place < 4; place++) {
             due("first(0, " + place + ")", x.first(0, place), place + 1);
@@ -398,7 +315,7 @@ public final class PromiseTest {
     }
 
     private static void has() {
-        promise = "9 has";
+        about("9 has");
         GapSongs x = of("song 1 2 3;person 0 0;person 0 0;person 0 0;person 0 0;has 0 0 253;has 1 0 7;has 2 0 255;");
         due("bits of no notes", x.has(0, 0, 1), 5);
         due("has(0, 0, 2)", x.has(0, 0, 2), 1);
@@ -434,7 +351,7 @@ public final class PromiseTest {
     // ---- 10 to 15: acts ----
 
     private static void days() {
-        promise = "10 days";
+        about("10 days");
         GapSongs x = of(THREE);
         due("days(0)", x.days(0), NONE);
         due("days(-1)", x.days(-1), NONE);
@@ -465,7 +382,7 @@ public final class PromiseTest {
     }
 
     private static void rules() {
-        promise = "10 days, by rules";
+        about("10 days, by rules");
         // 1 forgets at its turn by what is so then: 0 has lost it already, so nobody is with 1
         GapSongs x = of("song 4;person 0 0;person 0 0;has 0 0 0;has 1 0 0;forgets with;");
         x.days(1);
@@ -502,15 +419,8 @@ public final class PromiseTest {
         expr("wit=6 and memory=4 and note=8 and place=0 and gaps=0 and with=0 and day=0", 1);
     }
 
-    /** Whether the rule forgets; -1 for a FAULT. */
-    private static void expr(String rule, int want) {
-        GapSongs x = new GapSongs();
-        int got = tell(x, "song 8 8;person 4 6;has 0 0 0;forgets " + rule + ";");
-        due(rule, got != 0 ? -1 : x.then(0, 0, 1, 1), want);
-    }
-
     private static void learn() {
-        promise = "11 learn";
+        about("11 learn");
         GapSongs x = of(THREE);
         due("of one without a gap", x.learn(2, 0, 0), NONE);
         due("of one who hasn't it", x.learn(2, 1, 1), NONE);
@@ -543,7 +453,7 @@ public final class PromiseTest {
     }
 
     private static void seek() {
-        promise = "12 seek";
+        about("12 seek");
         GapSongs x = of(THREE);
         due("so already", x.seek(2, 0, 1), false);
         due("oneself", x.seek(2, 0, 2), false);
@@ -567,7 +477,7 @@ public final class PromiseTest {
     }
 
     private static void giveUp() {
-        promise = "13 giveUp";
+        about("13 giveUp");
         GapSongs x = of(THREE);
         due("giveUp(1, 0)", x.giveUp(1, 0), 1);
         due("giveUp(0, 0)", x.giveUp(0, 0), 0);
@@ -579,7 +489,7 @@ public final class PromiseTest {
     }
 
     private static void hum() {
-        promise = "14 hum";
+        about("14 hum");
         GapSongs x = of(THREE);
         due("no gap", x.hum(0, 0, 0, 1), false);
         due("one hasn't it", x.hum(2, 0, 0, 1), false);
@@ -597,7 +507,7 @@ public final class PromiseTest {
     }
 
     private static void undo() {
-        promise = "15 undo";
+        about("15 undo");
         GapSongs x = of(THREE);
         for (int i = 0; i < 41; i++) {
             due("seek", x.seek(0, i % 2, 1), true);
@@ -624,7 +534,7 @@ public final class PromiseTest {
     // ---- 16 to 21: then ----
 
     private static void then() {
-        promise = "16, 17 then and note";
+        about("16, 17 then and note");
         GapSongs x = of(THREE);
         due("then(0, 0, 6, 0)", x.then(0, 0, 6, 0), 1);
         due("then(0, 0, 7, 0): days 0, 2, 4, 6", x.then(0, 0, 7, 0), 0);
@@ -653,7 +563,7 @@ public final class PromiseTest {
     }
 
     private static void sung() {
-        promise = "18 to 21 sung, lost, learnt, most";
+        about("18 to 21 sung, lost, learnt, most");
         GapSongs x = of(THREE);
         due("sung(0, 3, 0)", x.sung(0, 3, 0), 4);
         due("sung(0, 4, 0)", x.sung(0, 4, 0), 0);
@@ -698,7 +608,7 @@ public final class PromiseTest {
     // ---- 22 to 25: side by side ----
 
     private static void both() {
-        promise = "22 both";
+        about("22 both");
         GapSongs x = of("song 1 2 3 4 5 6;person 0 0;person 0 0;person 0 0;has 0 0 0;has 1 0 63;has 2 0 21;"
             + "song 1 1;");
         x.hum(2, 0, 0, 2);  // 2 2 gap 4 gap 6
@@ -719,7 +629,7 @@ public final class PromiseTest {
     }
 
     private static void toLearn() {
-        promise = "23 toLearn";
+        about("23 toLearn");
         GapSongs x = of("song 3 3 1;person 0 0;person 0 0;person 0 0;person 0 0;person 0 0;"
             + "has 1 0 4;has 2 0 2;has 3 0 2;has 4 0 0;");
         // of 1: 3 3 3 is like at 2 places, of 2 and 3: 3 3 1 at 3, 4 has no gap
@@ -740,7 +650,7 @@ public final class PromiseTest {
     }
 
     private static void lessons() {
-        promise = "24, 25 lessons and lesson";
+        about("24, 25 lessons and lesson");
         // gaps are filled with the wit: 0 fits place 1 (wit 2), 1 fits place 0 (wit 1), 2 none (wit 9)
         GapSongs x = of("song 1 2 3;person 0 2;person 0 1;person 0 9;person 0 0;person 0 0;"
             + "has 3 0 1;has 4 0 2;fills wit;");
@@ -773,7 +683,7 @@ public final class PromiseTest {
     // ---- 26 to 29: heard ----
 
     private static void hear() {
-        promise = "26, 27 hear and forget";
+        about("26, 27 hear and forget");
         GapSongs x = of(THREE);
         due("days 21", x.hear(0, 0, 0, 21, 1), NONE);
         due("days -1", x.hear(0, 0, 0, -1, 1), NONE);
@@ -795,7 +705,7 @@ public final class PromiseTest {
     }
 
     private static void otherwise() {
-        promise = "28, 29 otherwise and ask";
+        about("28, 29 otherwise and ask");
         GapSongs x = of("song 1 2 3;person 1 0;has 0 0 0;");
         due("nothing heard", x.otherwise(0), 9);
         due("nothing heard", x.otherwise(1), 0);
@@ -834,7 +744,7 @@ public final class PromiseTest {
     // ---- 30 to 32: chance and choice ----
 
     private static void winters() {
-        promise = "30 winters";
+        about("30 winters");
         GapSongs x = of(THREE);
         due("day 0 matters, day 1 doesn't", x.winters(0, 0, 2, 3), 30);
         due("days 0, 2, 4", x.winters(0, 0, 5, 3), 2700);
@@ -851,7 +761,7 @@ public final class PromiseTest {
     }
 
     private static void game() {
-        promise = "31 game";
+        about("31 game");
         GapSongs x = of(THREE);
         // 1 gains 3 by 2, if it stays; 0 gains nothing: it rests at (0, 0) and (1, 0)
         due("how many", x.game(0, 1, 0, 0), 2);
@@ -879,7 +789,7 @@ public final class PromiseTest {
     }
 
     private static void years() {
-        promise = "32 years";
+        about("32 years");
         GapSongs x = of(THREE);
         due("years(5, 0, 0)", x.years(5, 0, 0), 0);
         due("years(5, 0, 1)", x.years(5, 0, 1), 2);
@@ -931,7 +841,7 @@ public final class PromiseTest {
     // ---- 33 to 38 ----
 
     private static void ofOne() {
-        promise = "33 of";
+        about("33 of");
         GapSongs x = of("song 1 1 2 9 2;song 3;person 0 0;person 0 0;person 0 0;has 0 0 8;forgets day=0 and place=0;");
         due("no teacher", x.of(0, 0, 0), NONE);
         due("changes, gaps left out", x.of(0, 0, 1), 1);
@@ -955,7 +865,7 @@ public final class PromiseTest {
     }
 
     private static void kept() {
-        promise = "34 kept";
+        about("34 kept");
         GapSongs x = of(THREE);
         due("kept(0, 0, 0)", x.kept(0, 0, 0), 13);
         due("kept(0, 1, 0)", x.kept(0, 1, 0), 12);
@@ -972,7 +882,7 @@ public final class PromiseTest {
     }
 
     private static void later() {
-        promise = "35 later";
+        about("35 later");
         GapSongs x = of(THREE);
         due("rarest now", x.later(0, 0), 1);
         due("rarest behind 1", x.later(1, 0), 0);
@@ -991,7 +901,7 @@ public final class PromiseTest {
     }
 
     private static void agreed() {
-        promise = "36 agreed";
+        about("36 agreed");
         GapSongs x = of("song 8 8;person 0 0;person 0 0;person 0 0;person 0 0;has 0 0 1;has 1 0 1;has 2 0 1;has 3 0 1;");
         due("all gaps", x.agreed(0, 0), NONE);
         x.hum(0, 0, 0, 5);
@@ -1005,7 +915,7 @@ public final class PromiseTest {
     }
 
     private static void image() {
-        promise = "37, 38 image and restore";
+        about("37, 38 image and restore");
         GapSongs x = of(THREE);
         x.days(1);
         x.seek(1, 1, 0);
@@ -1080,9 +990,6 @@ public final class PromiseTest {
         later();
         agreed();
         image();
-        System.out.println(wrong == 0 ? "all promises are kept" : wrong + " answers are not as due");
-        if (wrong != 0) {
-            System.exit(1);
-        }
+        end("all promises are kept");
     }
 }
