@@ -14,6 +14,7 @@ public final class BoundaryTest extends Boundaries {
         GuessBoundaries.run();
         LookBoundaries.runLast();
         CallBoundaries.run();
+        FullBoundaries.run();
         if (along) {
             about("what no test quotes");
             document.unquoted().forEach(Checks::report);

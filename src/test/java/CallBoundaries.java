@@ -153,6 +153,20 @@ final class CallBoundaries extends Boundaries {
         due("no FORGETS", y.then(0, 0, 1, 0), 0);
         y.learn(1, 0, 0);
         due("no FILLS", sungBy(y, 1, 0), "02");
+        for (int i = 3; i < 9; i++) {
+            String rules = "forgets place=" + i % 2 + "+0".repeat(99) + ";fills " + i + "+0".repeat(99) + ";";
+            due("rules anew", tell(y, "song 1 2 3;person 0 0;person 0 0;has 0 0 4;" + rules), 0);
+            y.learn(1, 0, 0);
+            due("FILLS anew", sungBy(y, 1, 0), "12" + i);
+            due("FORGETS anew", y.note(0, 0, i % 2, 1), NONE);
+            due("FORGETS anew", y.note(0, 0, 1 - i % 2, 1), 2 - i % 2);
+        }
+        cut("songs", 4, 1, 4);
+        cut("song 12;", 6, 1, 6);
+        cut("song 1  ;", 7, 1, 7);
+        cut("song 1;x", 7, 0, NONE);
+        cut("forgets daya;", 11, 1, 11);
+        cut("forgets 12345;", 12, 1, 12);
         GapSongs z = of(THREE);
         z.days(3);
         z.hear(0, 0, 0, 0, NONE);
@@ -167,6 +181,14 @@ final class CallBoundaries extends Boundaries {
         due("the image stays", z.restore(), true);
         due("the image's DAY", z.count(2), 3);
         due("ACTS stay", z.undo(), 0);
+    }
+
+    /** What stands on the tape behind the first n bytes is no part of the text. */
+    private static void cut(String text, int n, int kind, int place) {
+        GapSongs x = new GapSongs();
+        feedText(x, text);
+        due("the first " + n + " of " + text, x.marsh(n), kind);
+        due("fault() of the first " + n + " of " + text, x.fault(), place);
     }
 
     private static void marshGone() {
@@ -676,7 +698,9 @@ final class CallBoundaries extends Boundaries {
         GapSongs x = of(THREE);
         x.image();
         x.days(1);
+        String behindOne = all(x);
         x.seek(1, 1, 0);
+        String behindTwo = all(x);
         x.hear(0, 0, 0, 0, NONE);
         String then = all(x);
         x.image();
@@ -688,8 +712,19 @@ final class CallBoundaries extends Boundaries {
         x.hear(1, 0, 0, 0, 5);
         due("restore()", x.restore(), true);
         due("the later image", all(x), then);
-        due("ACTS", x.undo(), 1);
-        due("ACTS", x.undo(), 0);
+        x.forget();
+        x.undo();
+        x.undo();
+        x.giveUp(0, 0);
+        x.hum(1, 0, 1, 9);
+        x.hear(0, 0, 0, 0, 9);
+        due("restore()", x.restore(), true);
+        due("the later image", all(x), then);
+        x.forget();
+        due("what was HEARD alone is gone", all(x), behindTwo);
+        due("the last of its ACTS", x.undo(), 1);
+        due("ahead of it", all(x), behindOne);
+        due("the first of its ACTS", x.undo(), 0);
         due("ahead of all", x.count(4), 2);
     }
 
@@ -727,6 +762,7 @@ final class CallBoundaries extends Boundaries {
         due("the tape stays", y.count(8), 20);
         for (int left = 39; left >= 0; left--) {
             due("what is sought", y.person(0, 3), (left + 1) % 2);
+            due("of whom", y.person(0, 4), 1);
             due("undo()", y.undo(), left);
         }
         due("the 41st is kept no more", y.undo(), NONE);

@@ -40,6 +40,12 @@ final class GuessBoundaries extends Boundaries {
         so(x, 0, 0, 0, 0, 19, NONE);
         so(x, 1, 0, 0, 0, 20, NONE);
         so(x, 0, 0, 0, 0, 20, 0);
+        GapSongs y = of("song 1 2;song 3 4;song 5 6;song 7 8;song 9 0;person 0 0;person 1 0;has 1 4 0;has 1 3 1;");
+        so(y, 1, 1, 4, 0, 0, 9);
+        so(y, 1, 1, 4, 1, 0, 0);
+        so(y, 0, 1, 4, 1, 0, 9);
+        so(y, 1, 1, 3, 1, 0, 8);
+        so(y, 0, 1, 0, 1, 0, 2);
     }
 
     /** Whether this, HEARD alone, is so without another MEMORY. */
@@ -82,6 +88,10 @@ final class GuessBoundaries extends Boundaries {
         due("MEMORY 0 by the rule", y.otherwise(1), 0);
         due("MEMORY 0 by the rule", y.otherwise(0), 1);
         due("MEMORY stays", y.person(0, 0), 3);
+        due("MEMORIES of 0 to 9 alone", of("person 3 0;forgets memory<0 or 9<memory;").otherwise(0), 9);
+        GapSongs z = singers("12", "", "12");
+        due("by all but its own 0", z.otherwise(0), 9);
+        due("by its own again behind it", z.then(0, 0, 2, 0), 0);
     }
 
     private static void othersAndWithout() {
@@ -92,6 +102,9 @@ final class GuessBoundaries extends Boundaries {
         x.hear(0, 0, 0, 1, 1);
         due("so without", x.otherwise(2), 1);
         due("all but 0's 4: 8 and 9", x.otherwise(0), 17);
+        GapSongs y = of("song 1 2;person 9 0;has 0 0 0;");
+        y.hear(0, 0, 1, 10, 2);
+        due("by 9, not by 0", y.otherwise(2), 1);
         x.hear(0, 0, 0, 2, NONE);
         due("not so", x.otherwise(2), 0);
         due("by none", x.otherwise(0), 0);
@@ -131,6 +144,22 @@ final class GuessBoundaries extends Boundaries {
         GapSongs v = of("song 1 2 3 4 5 6 7 8;person 0 0;person 0 0;has 0 0 0;has 1 0 0;forgets day<memory and place+1<8;");
         due("0 to 7 GAPS", v.ask(1), 8);
         due("of like ones", v.ask(0), 0);
+        String three = "song 1 2 3;person 3 0;has 0 0 0;forgets ";
+        due("by MEMORY 0, too", of(three + "memory=0 and place=0;").ask(1), 2);
+        due("by MEMORY 9, too", of(three + "memory=9 and place=0;").ask(1), 2);
+        due("by 0 to 9 alone", of(three + "place=0 and (memory<0 or 9<memory);").ask(1), 1);
+        GapSongs u = of(three + "place=0 and day=12;");
+        u.hear(0, 0, 2, 5, 3);
+        due("10 DAYS from now, not from what is HEARD", u.ask(1), 1);
+        GapSongs t = of(three + "memory=5 and place=0 and day=12;");
+        t.hear(0, 0, 2, 5, 3);
+        due("10 DAYS from now, not from what is HEARD", t.ask(1), 1);
+        due("not by its own", of(three + "memory=3 and place=0;").ask(1), 1);
+        for (int memory = 0; memory <= 9; memory += 9) {
+            GapSongs r = of("song 1 2;person " + memory + " 0;has 0 0 0;");
+            r.ask(0);
+            due("by its own MEMORY again behind it", r.then(0, 0, 2, 0), memory == 0 ? 0 : 1);
+        }
     }
 
     private static void winters() {
@@ -146,6 +175,7 @@ final class GuessBoundaries extends Boundaries {
             due("always WINTER for " + days, x.winters(0, 0, days, 10), power);
             due("never WINTER for " + days, x.winters(0, 0, days, 0), 0);
             due("7 tenths for " + days, x.winters(0, 0, days, 7), tenthsPower);
+            due("1 tenth for " + days, x.winters(0, 0, days, 1), 1);
             due("with a GAP", x.winters(1, 0, days, 10), 0);
             due("who hasn't it", x.winters(2, 0, days, 10), 0);
         }
@@ -181,7 +211,11 @@ final class GuessBoundaries extends Boundaries {
         due("a PUPIL who HAS it no more", z.game(0, 1, 0, 0), 2);
         due("a PUPIL who HAS it no more", z.game(0, 1, 0, 1), 0);
         due("a PUPIL who HAS it no more", z.game(1, 0, 0, 1), 0);
-        due("a PUPIL of neither", z.game(0, 1, 0, 0), 2);
+        // 0 has a PUPIL and no NOTE, or three NOTES anew of 1 and no PUPIL; 1 has no NOTE in any case
+        GapSongs w = of("song 1 1 1;person 0 1;person 0 2;person 0 0;has 0 0 0;has 1 0 1;seeks 0 0 1;seeks 2 0 0;fills 9;"
+            + "forgets wit=1 and (note=1 and place=0 or 0<gaps) or wit=2 and 0<day;");
+        due("a PUPIL and no NOTE", w.game(0, 1, 0, 0), 3);
+        due("a PUPIL and no NOTE", w.game(0, 1, 0, 1), 0);
         due("one hasn't it", z.game(0, 2, 0, 0), NONE);
         due("one hasn't it", z.game(2, 0, 0, 1), NONE);
     }
@@ -228,10 +262,14 @@ final class GuessBoundaries extends Boundaries {
             + " a DRAW of SONGS of a DRAW of PEOPLE (all three are drawn first; if the last one is oneself,"
             + " one SEEKS nothing any more);");
         GapSongs x = singers("12", "forgets 0;", "_2", "-", "-", "-");
+        GapSongs late = singers("12", "forgets day=9 and place=0;", "12", "-", "-", "-");
         for (int seed : new int[] {0, 1, -1, MANY, FEW, 5, 77, 1234567}) {
             for (int n : new int[] {0, 1, 2, 17, 99, 100}) {
-                playSeekers(x, seed, n);
+                playSeekers(x, seed, n, 0);
             }
+        }
+        for (int seed = 0; seed < 160; seed++) {
+            playSeekers(late, seed * 26843546 - MANY, 10, 9);
         }
         illegal("n 101", () -> x.years(5, 101, 0));
         illegal("n -1", () -> x.years(5, -1, 0));
@@ -244,8 +282,8 @@ final class GuessBoundaries extends Boundaries {
         due("nothing has happened", y.count(2), 0);
     }
 
-    /** Nobody forgets, and what 0 has a GAP in is learnt of 0 alone, or of nobody, if 0 gives it UP. */
-    private static void playSeekers(GapSongs x, int seed, int n) {
+    /** 0 has a GAP from this DAY on: it is learnt of 0 alone, or of nobody, if 0 gives it UP; nobody else forgets. */
+    private static void playSeekers(GapSongs x, int seed, int n, int gapDay) {
         long[] s = {seed & 0xFFFFFFFFL};
         boolean[] has = {true, false, false, false};
         int[] sought = {NONE, NONE, NONE, NONE};
@@ -263,7 +301,7 @@ final class GuessBoundaries extends Boundaries {
                 has[who] = false;
             }
             for (int p = 1; p < 4; p++) {
-                if (sought[p] == 0 && has[0] && !has[p]) {
+                if (sought[p] == 0 && has[0] && !has[p] && day >= gapDay) {
                     has[p] = true;
                     sought[p] = NONE;
                     taught++;
@@ -272,7 +310,7 @@ final class GuessBoundaries extends Boundaries {
         }
         String years = " of years(" + seed + ", " + n + ")";
         due("how often one LEARNT" + years, x.years(seed, n, 0), taught);
-        due("GAPS" + years, x.years(seed, n, 1), has[0] ? 1 : 0);
+        due("GAPS" + years, x.years(seed, n, 1), has[0] && n >= gapDay ? 1 : 0);
         due("SONGS that nobody HAS" + years, x.years(seed, n, 2), has[0] || has[1] || has[2] || has[3] ? 0 : 1);
     }
 
@@ -311,9 +349,18 @@ final class GuessBoundaries extends Boundaries {
         sentence("A seed becomes itself times 1103515245 and 12345 (an int that wraps);"
             + " a DRAW of n is its bits 16 to 30 MOD n then.");
         GapSongs y = of("song 1 2;" + "person 0 0;".repeat(7) + "has 6 0 1;forgets 0;");
+        GapSongs z = singers("12", "forgets 0;", "_2");
         for (int i = 0; i < 120; i++) {
-            playGiversOfSeven(y, i * 35791394 + 7);
+            int seed = i * 35791394 + 7;
+            long[] s = {seed & 0xFFFFFFFFL};
+            boolean given = draw(s, 5) == 1 && draw(s, 7) == 6;
+            due("whether 6 gives it UP by " + seed, y.years(seed, 1, 2), given ? 1 : 0);
+            due("whether one alone gives it UP by " + seed, z.years(seed, 1, 2), drawn(seed) == 1 ? 1 : 0);
         }
+    }
+
+    private static int drawn(int seed) {
+        return draw(new long[] {seed & 0xFFFFFFFFL}, 5);
     }
 
     /** Who gives what UP in so few DAYS; where somebody SEEKS it is left to other tests. */
@@ -336,12 +383,6 @@ final class GuessBoundaries extends Boundaries {
         due("how often of " + seed, x.years(seed, n, 0), 0);
         due("GAPS of " + seed, x.years(seed, n, 1), java.util.Arrays.stream(gaps).sum());
         due("SONGS of " + seed, x.years(seed, n, 2), 5 - Integer.bitCount(has[0] | has[1] | has[2]));
-    }
-
-    private static void playGiversOfSeven(GapSongs x, int seed) {
-        long[] s = {seed & 0xFFFFFFFFL};
-        boolean given = draw(s, 5) == 1 && draw(s, 7) == 6;
-        due("whether 6 gives it UP by " + seed, x.years(seed, 1, 2), given ? 1 : 0);
     }
 
     private static void nobodyToDraw() {

@@ -172,6 +172,8 @@ final class LookBoundaries extends Boundaries {
         due("LIKE at no place: how LIKE", y.toLearn(0, 0, 1), 0);
         due("a lesson LIKE at no place", y.lesson(0, 0), 1);
         due("one alone", of("song 1;person 0 0;").toLearn(0, 0, 0), NONE);
+        due("the first one", singers("1234", "fills 9;", "_234", "12__", "-").toLearn(2, 0, 0), 0);
+        due("the last one", singers("1234", "fills 9;", "-", "12__", "_234").toLearn(0, 0, 0), 2);
     }
 
     private static void nearest() {
@@ -189,6 +191,9 @@ final class LookBoundaries extends Boundaries {
         y.giveUp(3, 0);
         due("of like ones", y.song(0, 3), 1);
         due("how much", y.song(0, 4), 2);
+        GapSongs z = singers("123", "", "123", "133", "124");
+        due("the first one", z.song(0, 3), 0);
+        due("how much", z.song(0, 4), 2);
     }
 
     /** 1 LEARNS of 0, 2 of 1 .. 6 of 5: each has a GAP on the DAY behind. */
@@ -294,6 +299,14 @@ final class LookBoundaries extends Boundaries {
         none.days(1);
         due("how many", none.lessons(0, 0), 1);
         due("how LIKE", none.lessons(0, 1), 0);
+        due("of whom", none.lesson(0, 0), 1);
+        GapSongs gone = singers("12", "", "_2", "-");
+        due("of whom", gone.lesson(1, 0), 0);
+        due("how LIKE", gone.lessons(0, 1), 1);
+        gone.giveUp(0, 0);
+        due("of nobody any more", gone.lesson(1, 0), NONE);
+        due("none any more", gone.lessons(0, 0), 0);
+        due("LIKE at no place any more", gone.lessons(0, 1), 0);
     }
 
     private static void firstRow() {

@@ -100,6 +100,20 @@ final class TextBoundaries extends Boundaries {
         faulty("songs 1;", 1, 0);
         faulty("son g 1;", 1, 0);
         faulty("songsong 1;", 1, 0);
+        for (String word : new String[] {"song", "person", "has", "seeks", "forgets", "fills"}) {
+            faulty("x" + word.substring(1) + " 1;", 1, 0);
+            faulty(word.substring(0, word.length() - 1) + "x 1;", 1, 0);
+            faulty(word.substring(0, word.length() - 1) + " 1;", 1, 0);
+        }
+        for (String word : new String[] {"memory", "wit", "note", "place", "gaps", "with", "day"}) {
+            faulty("forgets x" + word.substring(1) + ";", 3, 8);
+            faulty("forgets " + word.substring(0, word.length() - 1) + "x;", 3, 8);
+        }
+        faulty("forgets 1 xr 1;", 1, 10);
+        faulty("forgets 1 xnd 1;", 1, 10);
+        faulty("forgets xot 1;", 3, 8);
+        faulty("fills xefore;", 3, 6);
+        faulty("fills xfter;", 3, 6);
         faulty("forgets dayday;", 3, 8);
         faulty("forgets 1 andnot 1;", 1, 10);
         faulty("forgets 1 and notnot 1;", 3, 14);
