@@ -1,3 +1,5 @@
+import java.util.Arrays;
+
 /** A part of the tests that go by the document's sentences: each check belongs to the sentence quoted last. */
 abstract class Boundaries extends Checks {
     private static Document document = null;
@@ -28,7 +30,14 @@ abstract class Boundaries extends Checks {
                 b.append(x.has(p, s, 3)).append(' ').append(sungBy(x, p, s)).append(' ');
             }
         }
-        return b.append("| ").append(x.otherwise(0)).append(x.otherwise(2)).toString();
+        b.append("| ").append(x.otherwise(0)).append(x.otherwise(2));
+        lookFar(x);
+        return b.toString();
+    }
+
+    /** A look ahead must leave nothing behind: what is asked next is asked of now. */
+    static void lookFar(GapSongs x) {
+        x.most(100);
     }
 
     /** The NOTES that one has of a SONG, a '_' for a GAP; '-', if one hasn't it. */
@@ -42,6 +51,13 @@ abstract class Boundaries extends Checks {
             b.append(note == NONE ? "_" : String.valueOf(note));
         }
         return b.toString();
+    }
+
+    /** The first SONG as 1 LEARNS it of 0. */
+    static String learnt(String text) {
+        GapSongs x = of(text);
+        x.learn(1, 0, 0);
+        return sungBy(x, 1, 0);
     }
 
     /**
@@ -68,6 +84,7 @@ abstract class Boundaries extends Checks {
             }
             due("the SONG of " + p, sungBy(x, p, 0), rows[p]);
         }
+        lookFar(x);
         return x;
     }
 
@@ -75,7 +92,7 @@ abstract class Boundaries extends Checks {
     static void refused(GapSongs x, String want, int status, String name, int... arguments) {
         String before = all(x);
         int[] counts = {x.count(9), x.count(10), x.count(11)};
-        String call = name + java.util.Arrays.toString(arguments);
+        String call = name + Arrays.toString(arguments);
         due(call, ask(x, name, arguments), want);
         due("what is so behind " + call, all(x), before);
         for (int i = 0; i < 3; i++) {

@@ -389,6 +389,8 @@ final class CallBoundaries extends Boundaries {
     private static void seek() {
         sentence("SEEKS: true. False (STATUS 1): it is so already, both are one.");
         GapSongs x = of(THREE);
+        lookFar(x);
+        due("as it is already, though not in 100 DAYS", x.seek(2, 0, 1), false);
         due("seek(0, 1, 2)", x.seek(0, 1, 2), true);
         due("seek(0, 1, 1)", x.seek(0, 1, 1), true);
         due("seek(0, 0, 1)", x.seek(0, 0, 1), true);

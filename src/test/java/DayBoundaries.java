@@ -90,6 +90,9 @@ final class DayBoundaries extends Boundaries {
         due("of one without a GAP", sungBy(v, 1, 0), "-");
         v.days(1);
         due("of one with a GAP", sungBy(v, 1, 0), "02");
+        GapSongs t = of("song 1 2;person 0 9;person 0 4;has 0 0 0;seeks 1 0 0;fills wit;");
+        t.days(1);
+        due("by the WIT of who LEARNS", sungBy(t, 1, 0), "42");
         inTurn();
 
         sentence("The DAY is one more then.");
@@ -134,12 +137,6 @@ final class DayBoundaries extends Boundaries {
         due("GAPS at the beginning", learnt("song 5 7 8;" + two + "has 0 0 3;"), "008");
         due("at the end", learnt("song 5 7;" + two + "has 0 0 2;"), "55");
         due("one behind the other", learnt("song 1 2 3 4 5 6 7 8;" + two + "has 0 0 126;"), "11111118");
-    }
-
-    private static String learnt(String text) {
-        GapSongs x = of(text);
-        x.learn(1, 0, 0);
-        return sungBy(x, 1, 0);
     }
 
     /** 0 has 8 7 in place of 5 7, and forgets the 7. */
@@ -240,21 +237,30 @@ final class DayBoundaries extends Boundaries {
 
     private static void undoing() {
         sentence("They are UNDONE, the last one first.");
-        GapSongs x = of(THREE);
-        String[] was = new String[5];
-        was[0] = all(x);
-        x.days(1);
-        was[1] = all(x);
-        x.giveUp(2, 0);
-        was[2] = all(x);
-        x.seek(2, 1, 1);
-        was[3] = all(x);
-        x.learn(2, 0, 0);
-        was[4] = all(x);
-        x.hum(1, 0, 0, 7);
+        GapSongs x = actsOf(5);
         for (int left = 4; left >= 0; left--) {
             due("undo()", x.undo(), left);
-            due("what is so with " + left, all(x), was[left]);
+            due("what is so with " + left, all(x), all(actsOf(left)));
+        }
+    }
+
+    /** The first so many of five ACTS, each of another kind, with no question between. */
+    private static GapSongs actsOf(int many) {
+        GapSongs x = of(THREE);
+        lookFar(x);
+        for (int act = 1; act <= many; act++) {
+            due("ACT " + act, act(x, act), true);
+        }
+        return x;
+    }
+
+    private static boolean act(GapSongs x, int act) {
+        switch (act) {
+            case 1: return x.days(1) == 1;
+            case 2: return x.giveUp(2, 0) == 0;
+            case 3: return x.seek(2, 1, 1);
+            case 4: return x.learn(2, 0, 0) == 3;
+            default: return x.hum(1, 0, 0, 7);
         }
     }
 }

@@ -1,3 +1,5 @@
+import java.util.Arrays;
+
 /** The boundaries of part 4: what is HEARD, WINTERS, GAMES, YEARS by a seed, STATUS. */
 final class GuessBoundaries extends Boundaries {
     private GuessBoundaries() {
@@ -105,6 +107,8 @@ final class GuessBoundaries extends Boundaries {
         GapSongs y = of("song 1 2;person 9 0;has 0 0 0;");
         y.hear(0, 0, 1, 10, 2);
         due("by 9, not by 0", y.otherwise(2), 1);
+        y.hear(0, 0, 0, 1, NONE);
+        due("by 9, on DAY 0", y.otherwise(2), 1);
         x.hear(0, 0, 0, 2, NONE);
         due("not so", x.otherwise(2), 0);
         due("by none", x.otherwise(0), 0);
@@ -154,6 +158,9 @@ final class GuessBoundaries extends Boundaries {
         GapSongs t = of(three + "memory=5 and place=0 and day=12;");
         t.hear(0, 0, 2, 5, 3);
         due("10 DAYS from now, not from what is HEARD", t.ask(1), 1);
+        GapSongs q = of("song 1 2;person 0 0;person 0 0;person 0 0;has 2 0 0;forgets memory=5 and place=0;");
+        due("more PEOPLE than SONGS: who", q.ask(0), 2);
+        due("more PEOPLE than SONGS: how many", q.ask(1), 2);
         due("not by its own", of(three + "memory=3 and place=0;").ask(1), 1);
         for (int memory = 0; memory <= 9; memory += 9) {
             GapSongs r = of("song 1 2;person " + memory + " 0;has 0 0 0;");
@@ -199,6 +206,10 @@ final class GuessBoundaries extends Boundaries {
         due("behind 20 DAYS", x.game(0, 1, 0, 0), 1);
         due("behind 20 DAYS: giving it UP", x.game(0, 1, 0, 1), 10);
         due("the other one's", x.game(1, 0, 0, 1), 1);
+        GapSongs second = of("song 9;song 1 2 3;person 0 0;person 0 0;has 0 1 3;has 1 1 0;"
+            + "seeks 0 1 1;forgets note=1 and day=19;");
+        due("of another SONG", second.game(0, 1, 1, 1), 10);
+        due("of another SONG, the other one's", second.game(1, 0, 1, 1), 1);
         GapSongs y = singers("123", late + "20;", "__3", "123");
         due("behind 21 DAYS", y.game(0, 1, 0, 0), 1);
         due("behind 21 DAYS: not", y.game(0, 1, 0, 1), 0);
@@ -381,7 +392,7 @@ final class GuessBoundaries extends Boundaries {
             }
         }
         due("how often of " + seed, x.years(seed, n, 0), 0);
-        due("GAPS of " + seed, x.years(seed, n, 1), java.util.Arrays.stream(gaps).sum());
+        due("GAPS of " + seed, x.years(seed, n, 1), Arrays.stream(gaps).sum());
         due("SONGS of " + seed, x.years(seed, n, 2), 5 - Integer.bitCount(has[0] | has[1] | has[2]));
     }
 

@@ -174,6 +174,9 @@ final class LookBoundaries extends Boundaries {
         due("one alone", of("song 1;person 0 0;").toLearn(0, 0, 0), NONE);
         due("the first one", singers("1234", "fills 9;", "_234", "12__", "-").toLearn(2, 0, 0), 0);
         due("the last one", singers("1234", "fills 9;", "-", "12__", "_234").toLearn(0, 0, 0), 2);
+        GapSongs z = of("song 1 2;person 0 1;person 0 2;person 0 0;has 1 0 1;has 2 0 2;fills wit;");
+        due("by the WIT of who LEARNS: whom", z.toLearn(0, 0, 0), 1);
+        due("by the WIT of who LEARNS: how LIKE", z.toLearn(0, 0, 1), 2);
     }
 
     private static void nearest() {

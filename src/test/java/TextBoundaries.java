@@ -346,13 +346,6 @@ final class TextBoundaries extends Boundaries {
         due("day 9999", sungBy(x, 1, 0), "59");
     }
 
-    /** The first SONG as 1 LEARNS it of 0. */
-    private static String learnt(String text) {
-        GapSongs x = of(text);
-        x.learn(1, 0, 0);
-        return sungBy(x, 1, 0);
-    }
-
     private static void firstFault() {
         sentence("FAULTS, the first along the text,");
         faulty("song 10;song;", 2, 5);
