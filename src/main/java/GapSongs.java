@@ -1925,7 +1925,8 @@ public final class GapSongs {
                 told.emit(tokens.value);
                 tokens.next();
             } else if (tokens.kind == Tokens.WORD) {
-                readValue();
+                emitValue();
+                tokens.next();
             } else if (tokens.isSign('(')) {
                 tokens.next();
                 readExpr(around + 1);
@@ -1938,7 +1939,7 @@ public final class GapSongs {
             }
         }
 
-        private void readValue() {
+        private void emitValue() {
             int value = commonValue();
             if (value == NONE) {
                 value = ofForgets ? forgetsValue() : fillsValue();
@@ -1948,7 +1949,6 @@ public final class GapSongs {
                 return;
             }
             told.emit(Reckoner.stepOfValue(value));
-            tokens.next();
         }
 
         private int commonValue() {

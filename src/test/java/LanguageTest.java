@@ -1,55 +1,40 @@
+import com.sun.source.tree.CompilationUnitTree;
+import com.sun.source.util.JavacTask;
+import com.sun.source.util.Trees;
 import java.io.IOException;
-import java.nio.file.Files;
 import java.nio.file.Path;
 import java.util.List;
-import java.util.regex.Matcher;
-import java.util.regex.Pattern;
+import javax.tools.JavaCompiler;
+import javax.tools.StandardJavaFileManager;
+import javax.tools.ToolProvider;
 
-/** Looks for what LANGUAGE.md leaves out of the program's file; the compiler can't know that. */
-public final class LanguageTest {
-    private static final String[] LEFT_OUT = {
-        "->", "::", "\\bcatch\\b", "\\bfinally\\b", "\\bsynchronized\\b", "\\bassert\\b", "Exact\\(", "\\bpackage\\b",
-        "static \\{", "\\[\\]\\[\\]\\[\\]", "\\bprotected\\b", "\\bSystem\\.(?!arraycopy)", "\\bMath\\.(?!max|min)",
-        "\\bthrow (?!new (NoSuchElementException|IllegalArgumentException)\\(\"[a-z ']*\"\\);)",
-        "[^\\x00-\\x7f]", "\\bvar\\b", "\\b(Map|Set|Random|Thread|Object|String\\.format)\\b"};
-    private static final int LONGEST_METHOD = 60;
+/** Reads the program's file by the compiler's own tree, and looks for what LANGUAGE.md leaves out. */
+public final class LanguageTest extends Checks {
     private static final int MOST_CLASSES = 12;
+    private static final int DEEPEST_CALLS = 8;
 
     public static void main(String[] args) throws IOException {
-        List<String> lines = Files.readAllLines(Path.of(args[0]));
-        int wrong = 0;
-        int classes = 0;
-        int begun = 0;
-        for (int i = 0; i < lines.size(); i++) {
-            String code = lines.get(i).replaceAll("/\\*.*\\*/|//.*", "");
-            for (String pattern : LEFT_OUT) {
-                Matcher found = Pattern.compile(pattern).matcher(code);
-                if (found.find()) {
-                    wrong++;
-                    System.out.println("line " + (i + 1) + " has " + pattern + ": " + code.trim());
-                }
-            }
-            if (code.startsWith("import ") && !code.matches("import java\\.util\\.(Arrays|NoSuchElementException);")) {
-                wrong++;
-                System.out.println("line " + (i + 1) + ": " + code);
-            }
-            classes += code.matches(".*\\b(class|enum|interface|record) [A-Z].*") ? 1 : 0;
-            if (code.matches("( {4}| {8})(public|private) .*\\(.*")) {
-                begun = i;
-            }
-            if (code.matches("( {4}| {8})\\}") && begun > 0 && i - begun > LONGEST_METHOD
-                    && code.indexOf('}') == lines.get(begun).indexOf('p')) {
-                wrong++;
-                System.out.println("line " + (begun + 1) + " begins a long method");
-            }
+        JavaCompiler compiler = ToolProvider.getSystemJavaCompiler();
+        try (StandardJavaFileManager files = compiler.getStandardFileManager(null, null, null)) {
+            JavacTask task = (JavacTask) compiler.getTask(null, files, null, List.of("-proc:none"), null,
+                files.getJavaFileObjects(Path.of(args[0])));
+            CompilationUnitTree unit = task.parse().iterator().next();
+            task.analyze();
+            LanguageRules rules = new LanguageRules(unit, Trees.instance(task));
+            rules.scan(unit, null);
+            checkWhole(rules);
         }
-        if (classes > MOST_CLASSES) {
-            wrong++;
-            System.out.println(classes + " classes");
+        end("the language is kept to");
+    }
+
+    private static void checkWhole(LanguageRules rules) {
+        about("rule 1");
+        for (String name : rules.privateNames()) {
+            due("the private " + name + " bears the name of a public one", rules.publicNames().contains(name), false);
         }
-        System.out.println(wrong == 0 ? "the language is kept to" : wrong + " places are outside the language");
-        if (wrong != 0) {
-            System.exit(1);
-        }
+        about("rule 11");
+        due("more than " + MOST_CLASSES + " classes", rules.classes() > MOST_CLASSES, false);
+        List<String> deepest = rules.calls().deepest();
+        due("calls go too deep: " + deepest, deepest.size() > DEEPEST_CALLS, false);
     }
 }

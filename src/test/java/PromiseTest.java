@@ -1,41 +1,5 @@
-import java.lang.reflect.Constructor;
-import java.lang.reflect.Field;
-import java.lang.reflect.Method;
-import java.lang.reflect.Modifier;
-import java.util.TreeSet;
-
 /** The promises one by one, with answers worked out by hand from the document. */
 public final class PromiseTest extends Checks {
-    // ---- the face ----
-
-    private static void face() {
-        about("the face");
-        TreeSet<String> names = new TreeSet<>();
-        for (Method m : GapSongs.class.getDeclaredMethods()) {
-            if (!Modifier.isPrivate(m.getModifiers())) {
-                due(m + " is public", Modifier.isPublic(m.getModifiers()), true);
-                due(m + " once", names.add(m.getName()), true);
-            }
-        }
-        due("public methods", names.size(), 37);
-        for (Method m : GapSongs.class.getDeclaredMethods()) {
-            if (Modifier.isPrivate(m.getModifiers())) {
-                due(m + " bears a name of the face", names.contains(m.getName()), false);
-            }
-        }
-        for (Class<?> inside : GapSongs.class.getDeclaredClasses()) {
-            due(inside + " is static", Modifier.isStatic(inside.getModifiers()), true);
-            due(inside + " is public", Modifier.isPublic(inside.getModifiers()), false);
-        }
-        for (Field f : GapSongs.class.getDeclaredFields()) {
-            due(f + " is private or NONE", Modifier.isPrivate(f.getModifiers()) || f.getName().equals("NONE"), true);
-        }
-        Constructor<?>[] makers = GapSongs.class.getDeclaredConstructors();
-        due("constructors", makers.length, 1);
-        due("NONE", GapSongs.NONE, -1);
-        due("final", Modifier.isFinal(GapSongs.class.getModifiers()), true);
-    }
-
     // ---- 1 to 4: the tape and the text ----
 
     private static void newObject() {
@@ -955,7 +919,6 @@ public final class PromiseTest extends Checks {
     }
 
     public static void main(String[] args) {
-        face();
         newObject();
         feed();
         faults();

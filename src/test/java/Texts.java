@@ -44,8 +44,35 @@ final class Texts {
         return b.toString();
     }
 
+    /** One long SONG of few NOTES, and many who have it with gaps or not at all: lessons are many and often alike. */
+    private String crowd() {
+        StringBuilder b = new StringBuilder("song");
+        int notes = 4 + random.nextInt(5);
+        for (int i = 0; i < notes; i++) {
+            b.append(' ').append(random.nextInt(3));
+        }
+        b.append(';');
+        int people = 4 + random.nextInt(4);
+        for (int p = 0; p < people; p++) {
+            b.append("person ").append(6 + random.nextInt(4)).append(' ').append(random.nextInt(10)).append(';');
+            if (random.nextBoolean()) {
+                b.append("has ").append(p).append(" 0 ").append(1 + random.nextInt(255)).append(';');
+            }
+        }
+        if (random.nextBoolean()) {
+            b.append("forgets ").append(random.nextBoolean() ? "0" : "memory<day and gaps<3").append(';');
+        }
+        if (random.nextBoolean()) {
+            b.append("fills ").append(expr(false, 2)).append(';');
+        }
+        return b.toString();
+    }
+
     /** Most of these are right; a test in a test ("1<2<3") may come out wrong, which is as good. */
     String any() {
+        if (random.nextInt(5) == 0) {
+            return crowd();
+        }
         StringBuilder b = new StringBuilder();
         int songs = 1 + random.nextInt(random.nextInt(4) == 0 ? 5 : 3);
         int people = 1 + random.nextInt(random.nextInt(4) == 0 ? 7 : 5);
@@ -90,7 +117,26 @@ final class Texts {
         return b.length() <= 700 ? b.toString() : b.substring(0, 700);
     }
 
+    /** A line told once more, or in another line's place: who and what is told twice, or behind its use. */
+    private String linesChanged(String text) {
+        String[] lines = text.split(";");
+        int from = random.nextInt(lines.length);
+        int to = random.nextInt(lines.length);
+        String moved = lines[from];
+        if (random.nextBoolean()) {
+            lines[from] = lines[to];
+            lines[to] = moved;
+        } else {
+            lines[to] = lines[to] + ";" + moved;
+        }
+        String all = String.join(";", lines) + ";";
+        return all.length() <= 700 ? all : all.substring(0, 700);
+    }
+
     String changed(String text) {
+        if (random.nextInt(3) == 0) {
+            return linesChanged(text);
+        }
         StringBuilder b = new StringBuilder(text);
         int changes = 1 + random.nextInt(3);
         for (int i = 0; i < changes; i++) {
